@@ -652,16 +652,16 @@ public final class SleepMoves {
     }
 
     private static int bitOf(int bits, int i) {
-        return bits >>> i & 1;
+        return (bits >>> i) & 1;
     }
 
     // All places are one number, three bits a THING: so they are kept and compared without a row.
     private static int placeIn(int places, int thing) {
-        return places >>> 3 * thing & 7;
+        return (places >>> (3 * thing)) & 7;
     }
 
     private static int placed(int places, int thing, int house) {
-        return places & ~(7 << 3 * thing) | house << 3 * thing;
+        return (places & ~(7 << (3 * thing))) | (house << (3 * thing));
     }
 
     /** A row of numbers; beside its ends 0 is read and nothing is written, so that no index can be wrong. */
@@ -707,7 +707,7 @@ public final class SleepMoves {
         static int bytesIn(int number) {
             int count = 0;
             for (int shift = 24; shift >= 0; shift -= 8) {
-                if ((number >>> shift & 255) != 0) {
+                if (((number >>> shift) & 255) != 0) {
                     count++;
                 }
             }
@@ -716,7 +716,7 @@ public final class SleepMoves {
 
         void add(int number) {
             for (int shift = 24; shift >= 0; shift -= 8) {
-                int sign = number >>> shift & 255;
+                int sign = (number >>> shift) & 255;
                 if (sign != 0) {
                     bytes.set(length, sign);
                     length++;
@@ -1362,13 +1362,13 @@ public final class SleepMoves {
         }
 
         int roundKey() {
-            return street.moonStand(night) << 3 * THINGS_MOST | places;
+            return (street.moonStand(night) << (3 * THINGS_MOST)) | places;
         }
 
         private void walk(int w) {
             int kind = street.kind.at(w);
             int stride;
-            if (w == inBed || kind == KIND_FEVERISH && hasFever()) {
+            if (w == inBed || (kind == KIND_FEVERISH && hasFever())) {
                 stride = 0;
             } else if (kind == KIND_FOLLOWING && w > 0) {
                 stride = strideAhead;
@@ -1395,11 +1395,11 @@ public final class SleepMoves {
         }
 
         private int ownStride(int w) {
-            int rule = street.rule.at(w);
+            Rule rule = ruleOf(w);
             int own;
             if (forcedStep.at(w) != NONE) {
                 own = forcedStep.at(w);
-            } else if (rule < 0 || rule >= rules.size()) {
+            } else if (rule == null) {
                 own = street.step.at(w);
             } else {
                 // In one NIGHT a RULE hangs on q alone, and searches ask it the same over and over: so it is kept.
@@ -1407,12 +1407,17 @@ public final class SleepMoves {
                 int slot = (night % WORTH_NIGHTS * SLEEPERS_MOST + w) * WORTH_CROWDS + lying;
                 if (worthNights.at(slot) != night) {
                     tellLetters(w, lying);
-                    worths.set(slot, rules.get(rule).worth(letters, stack));
+                    worths.set(slot, rule.worth(letters, stack));
                     worthNights.set(slot, night);
                 }
                 own = worths.at(slot);
             }
             return street.kind.at(w) == KIND_MOON && street.isFull(night) ? -own : own;
+        }
+
+        private Rule ruleOf(int w) {
+            int number = street.rule.at(w);
+            return number >= 0 && number < rules.size() ? rules.get(number) : null;
         }
 
         private void tellLetters(int w, int lying) {
@@ -1433,7 +1438,7 @@ public final class SleepMoves {
             int thing = highest ? 31 - Integer.numberOfLeadingZeros(lying) : lowest;
             places = placed(places, thing, to);
             carried.set(w, carried.at(w) + 1);
-            carriers.set(thing, carriers.at(thing) | 1 << w);
+            carriers.set(thing, carriers.at(thing) | (1 << w));
         }
 
         long partsInto(int thing, int house, int n, int partsRisk) {
@@ -1547,7 +1552,7 @@ public final class SleepMoves {
             count--;
             next = (next + NIGHTS_MOST - 1) % NIGHTS_MOST;
             stand.places = places.at(next);
-            stand.draws = (long) highDraws.at(next) << 32 | lowDraws.at(next) & 0xFFFFFFFFL;
+            stand.draws = ((long) highDraws.at(next) << 32) | (lowDraws.at(next) & 0xFFFFFFFFL);
             stand.night--;
             return true;
         }
