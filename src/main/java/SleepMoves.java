@@ -108,7 +108,6 @@ public final class SleepMoves {
         hasImage = false;
         past.forget();
         seen.forget();
-        dream.forgetWorths();
     }
 
     // ---- what there is

@@ -128,6 +128,14 @@ public final class PromiseTests {
         x.end(150);
         due("11 more", x.feed(-1, -1, 0x01010100, 0, 0), -1);
         due("10 more", x.feed(-1, -1, 0x01010000, 0, 0), 160);
+        int[] last = {1, 2, 3, 4, 5};
+        for (int i = 0; i < 5; i++) {
+            x.end(158);
+            last[i] = -1;
+            due("too many with number " + i, x.feed(last[0], last[1], last[2], last[3], last[4]), -1);
+            last[i] = 0;
+            due("without number " + i, x.feed(last[0], last[1], last[2], last[3], last[4]), i < 2 ? -1 : 158 + 4 - i);
+        }
     }
 
     // Promise 3
@@ -518,6 +526,11 @@ public final class PromiseTests {
         due("two lie there when it walks", x.where(0, 1), 3);
         x.put(1, 7);
         due("one lies there when it walks", x.where(0, 1), 2);
+        x = Check.street("h7;w;wa2k4;o;o;o;o;o;o;o;o");
+        Check.rule(x, 0, "y:q");
+        Check.rule(x, 1, "y:5");
+        due("eight lie there", x.where(0, 1), 1);
+        due("none lies at the next one's", x.where(1, 1), 2);
     }
 
     // Promise 10
@@ -989,6 +1002,7 @@ public final class PromiseTests {
         x.lock(2, true);
         due("locks as they are", x.odds(0, 1, 1), 1000000000);
         due("eight nights without feverish ones", Check.street("h4;w;o").odds(0, 8, 1), 1000000000);
+        due("eight nights of five", Check.street("h4;w;w;w;w;w;o").odds(0, 8, 1), 1000000000);
     }
 
     // Promise 29
@@ -1080,6 +1094,9 @@ public final class PromiseTests {
         due("guest what -1", x.guest(0, 1, 1, -1), -1);
         x = Check.street("h4;w;w;w;w;w;oa3");
         due("a sixth one", x.guest(3, 2, 1, 1), 1);
+        SleepMoves y = Check.street("h4;wa1s2;o;oa1;o");
+        Check.rule(y, 0, "y:n*2");
+        due("the lowest thing goes, so the other one walks with it", y.guest(0, 1, 2, 0), 3);
         due("no more of it", x.carries(0, 1), 0);
     }
 
