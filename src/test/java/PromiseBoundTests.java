@@ -188,6 +188,25 @@ public final class PromiseBoundTests {
         due("the risk stays", x.odds(0, 1, 7), 400000000);
         due("the rules stay", x.rule(0, 1), true);
         due("the second of them", x.where(0, 1), 3);
+        nothingOfTheOther();
+    }
+
+    /** A STREET with less of all: nothing of the one ahead is left in what is asked. */
+    private static void nothingOfTheOther() {
+        SleepMoves x = Check.street("h8;wk3;wk3;wk3;wk3;wk3;o;o;oa7;oa7;oa7;oa7;oa7;oa7;mp2g9");
+        for (int i = 0; i < 20; i++) {
+            x.see(7, 1, 0, true);
+        }
+        Check.feed(x, "h4;wk3;o");
+        due("a street with less", x.text(0), 1);
+        due("no other feverish one is left", x.odds(0, 8, 1), 1000000000);
+        due("see", x.see(0, 1, 2, true), 1);
+        due("that one alone was seen", x.fits(0), 4);
+        due("no thing is left elsewhere", x.homing(1, 0), -1);
+        due("no moon is left", x.moon(9), 0);
+        due("round", x.round(0), 1);
+        due("nothing else is astray", x.astray(1), 1);
+        due("no thing is left in house 3", x.house(3, 0), 0);
     }
 
     // ---- Promises 6 to 9

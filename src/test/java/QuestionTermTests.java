@@ -201,6 +201,7 @@ public final class QuestionTermTests {
         SleepMoves y = Check.street("h8;wa7e1" + Check.times(8, ";oa7"));
         due("the highest thing, the last house", y.test(0, 1, 0), 77);
         due("so many kinds", y.test(0, 1, 1), 8);
+        due("behind the last house comes the next thing", Check.street("h8;we1;o;o").test(0, 1, 0), 10);
         SleepMoves z = Check.street("h2;w;o");
         due("the first thing, the first house", z.test(0, 1, 0), 0);
         due("two kinds", z.test(0, 1, 1), 2);
@@ -290,6 +291,9 @@ public final class QuestionTermTests {
         SleepMoves y = Check.street("h2;wk3;wk3;wk3;o");
         y.risk(50);
         due("twelve walks, all in fever", y.odds(0, 4, 0), 244140);
+        y.risk(10);
+        due("nine walks in fever: a single part", y.odds(0, 3, 0), 1);
+        due("ten and more: cut to none", y.odds(0, 4, 0), 0);
     }
 
     /** RULES with n, q and m are asked as it goes, in FEVER and without. */

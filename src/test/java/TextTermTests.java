@@ -350,6 +350,8 @@ public final class TextTermTests {
     private static void endsTooEarly() {
         prefixes("h8;wa7s7k4e1;oa7;mp9g9;w;o", 0, 14, 16, 18, 20, 22, 24, 26);
         prefixes("h2;o;w", 0, 6);
+        prefixes(" h 2 ; w ; o ", 0, 12, 13);
+        prefixes(" y : n + 1 ", 1, 6, 7, 10, 11);
         prefixes("h2;m;w;o", 0, 8);
         prefixes("y:n", 1, 3);
         prefixes("y:1234", 1, 3, 4, 5, 6);
