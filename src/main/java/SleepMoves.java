@@ -1115,7 +1115,10 @@ public final class SleepMoves {
                 case '&': number = left & right; break;
                 default: number = left | right;
             }
-            return (int) Math.max(-NUMBER_MOST, Math.min(NUMBER_MOST, number));
+            if (number > NUMBER_MOST) {
+                return NUMBER_MOST;
+            }
+            return number < -NUMBER_MOST ? -NUMBER_MOST : (int) number;
         }
     }
 

@@ -535,6 +535,8 @@ public final class QuestionTermTests {
         SleepMoves between = Check.ruled("h4;w;o", "y:n=30?1;y:0");
         due("half and half", between.span(0, 60), 30);
         due("the first half is more", between.span(0, 59), 30);
+        due("away behind each night, though back behind two", swing().span(0, 60), 0);
+        due("there and back in each night", Check.street("h4;w;wa1s3;o").span(0, 60), 60);
     }
 
     /** "FULLEST ... (of several the first, from 1): how many; the NIGHT; the HOUSE (of several the lowest)." */
